@@ -1,0 +1,88 @@
+/** What the tests share: it prints each call whose answer is not the one that is due, and counts them. */
+final class Check {
+    private static int wrong = 0;
+    private static int done = 0;
+
+    interface Call {
+        Object answer();
+    }
+
+    static void due(String call, Object want, Object got) {
+        done++;
+        if (!want.equals(got)) {
+            wrong++;
+            System.out.println(call + " answered " + got + ", due is " + want);
+        }
+    }
+
+    /** The answer of a call, or the name of the exception that it throws. */
+    static Object answerOf(Call call) {
+        try {
+            return call.answer();
+        } catch (RuntimeException e) {
+            return "throws." + e.getClass().getSimpleName();
+        }
+    }
+
+    /** The call throws just this exception, and the object is as it was before. */
+    static void dueThrow(String name, Class<?> want, SkewFind x, Call call) {
+        String before = stateOf(x);
+        due(name, "throws." + want.getSimpleName(), answerOf(call));
+        due("the state after " + name, before, stateOf(x));
+    }
+
+    /** All that the object tells of itself by calls that change nothing. */
+    static String stateOf(SkewFind x) {
+        StringBuilder text = new StringBuilder(pictureOf(x));
+        for (int side = 0; side < 4; side++) {
+            text.append(' ').append(x.size(side));
+        }
+        for (int what = 0; what < 5; what++) {
+            text.append(' ').append(x.told(what));
+        }
+        text.append(' ').append(answerOf(x::sure)).append(' ').append(answerOf(x::mean));
+        return text.toString();
+    }
+
+    /** The samples, # for one that is on, the rows parted by strokes. */
+    static String pictureOf(SkewFind x) {
+        StringBuilder text = new StringBuilder();
+        for (int row = 0; row < x.told(1); row++) {
+            text.append(row == 0 ? "" : "|");
+            for (int column = 0; column < x.told(0); column++) {
+                text.append(x.at(column, row) ? '#' : '.');
+            }
+        }
+        return text.toString();
+    }
+
+    /** An object with this picture, written as pictureOf() writes it. */
+    static SkewFind drawn(String picture) {
+        String[] rows = picture.split("\\|");
+        SkewFind x = new SkewFind(rows[0].length(), rows.length);
+        for (int row = 0; row < rows.length; row++) {
+            for (int column = 0; column < rows[row].length(); column++) {
+                if (rows[row].charAt(column) == '#') {
+                    x.put(column, row, 1, true);
+                }
+            }
+        }
+        return x;
+    }
+
+    /** An object with these samples on, each given by its column and its row. */
+    static SkewFind dotted(int width, int height, int... places) {
+        SkewFind x = new SkewFind(width, height);
+        for (int i = 0; i + 1 < places.length; i += 2) {
+            x.put(places[i], places[i + 1], 1, true);
+        }
+        return x;
+    }
+
+    static void end() {
+        System.out.println(done + " checks, " + wrong + " wrong");
+        if (wrong != 0) {
+            System.exit(1);
+        }
+    }
+}

@@ -1,0 +1,56 @@
+/** Promise 4. */
+final class SumTest {
+    public static void main(String[] args) {
+        levelSums();
+        slopedSums();
+        sumsThrow();
+        Check.end();
+    }
+
+    private static void levelSums() {
+        Check.due("nothing on", 0.0, new SkewFind(5, 5).sum(0));
+        Check.due("nothing on, sloped", 0.0, new SkewFind(24, 24).sum(-2000));
+        Check.due("3 ends and 1", 2.5, Check.drawn("#.#.##|.##...").sum(0));
+        Check.due("an end at the border", 1.0, Check.drawn("..#|...|###").sum(0));
+        Check.due("a full picture", 1.0, Check.drawn("##|##|##").sum(0));
+        Check.due("two ends a row", 2.0, Check.drawn("#.#|#.#|#.#").sum(0));
+        Check.due("3, 2 and 1", 14.0 / 6.0, Check.drawn("#.#.#|#.#..|#....").sum(0));
+    }
+
+    // Ends at (0, 0) and (10, 1): on one line where 10 * SLOPE is above 0.5 (286.2) and not above 1.5 (853.1).
+    private static void slopedSums() {
+        SkewFind down = Check.dotted(24, 24, 0, 0, 10, 1);
+        dueSums("down", down, 1, new int[] {0, 100, 286, 854, 2000, -300, -2000}, 1.0);
+        dueSums("down", down, 1, new int[] {287, 288, 573, 853}, 2.0);
+        SkewFind up = Check.dotted(24, 24, 0, 1, 10, 0);
+        dueSums("up", up, -1, new int[] {0, 100, 286, 854, 2000, -300, -2000}, 1.0);
+        dueSums("up", up, -1, new int[] {287, 288, 573, 853}, 2.0);
+        // At 2000 SLOPE is 0.36396.., so that column 23 is 8 lines off.
+        Check.due("corner", 2.0, Check.dotted(24, 24, 23, 23, 0, 15).sum(2000));
+        Check.due("corner", 2.0, Check.dotted(24, 24, 23, 0, 0, 8).sum(-2000));
+        Check.due("corner", 1.0, Check.dotted(24, 24, 23, 0, 0, 8).sum(2000));
+    }
+
+    private static void dueSums(String name, SkewFind x, int sign, int[] angles, double want) {
+        for (int angle : angles) {
+            Check.due(name + " sum(" + sign * angle + ")", want, x.sum(sign * angle));
+        }
+    }
+
+    private static void sumsThrow() {
+        SkewFind x = Check.drawn("#..|.#.");
+        Class<?> wrong = IllegalArgumentException.class;
+        Check.due("sum(2000)", 2.0, Check.dotted(24, 24, 0, 0, 2, 1).sum(2000));
+        Check.due("sum(-2000)", 1.0, Check.dotted(24, 24, 0, 0, 2, 1).sum(-2000));
+        x.angle(100);
+        Check.dueThrow("sum(2001)", wrong, x, () -> x.sum(2001));
+        Check.dueThrow("sum(-2001)", wrong, x, () -> x.sum(-2001));
+        Check.dueThrow("sum(MAX)", wrong, x, () -> x.sum(Integer.MAX_VALUE));
+        Check.dueThrow("sum(MIN)", wrong, x, () -> x.sum(Integer.MIN_VALUE));
+        SkewFind empty = new SkewFind(3, 3);
+        Check.dueThrow("sum(2001), nothing on", wrong, empty, () -> empty.sum(2001));
+        String before = Check.stateOf(x);
+        x.sum(1234);
+        Check.due("the state after sum()", before, Check.stateOf(x));
+    }
+}
