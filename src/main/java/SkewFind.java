@@ -396,10 +396,7 @@ public final class SkewFind {
 
         Window(Picture picture) {
             this.picture = picture;
-            left = 0;
-            upper = 0;
-            right = picture.width;
-            lower = picture.height;
+            open();
         }
 
         void open() {

@@ -4,6 +4,8 @@ final class AngleTest {
         nothingOn();
         leastOfEquals();
         halvedSteps();
+        eachStepCounts();
+        stepsKeepToTheBound();
         theGridEndsAtTheBound();
         sureAtTheLimit();
         meanOfTheGrid();
@@ -44,17 +46,37 @@ final class AngleTest {
         Check.due("down angle(300)", 287, down.angle(300));
         SkewFind up = Check.dotted(24, 24, 0, 1, 10, 0);
         Check.due("up angle(2000)", -853, up.angle(2000));
-        // From 600 on the steps lead to -600 alone: nothing below it may be tried.
+        // -600 is the bound: nothing below it may be tried.
         Check.due("up angle(600)", -600, up.angle(600));
         Check.due("up angle(299)", -299, up.angle(299));
         // The grid's -250 has 1.0; 50 more is no better, and what is below may not be tried.
         Check.due("up angle(250)", -250, up.angle(250));
-        // Four ends on one line only from 866 to 1008, four lines of them.
+        // Four lines of four ends each, from 866 on.
         SkewFind text = stairs();
         Check.due("text angle(2000)", 866, text.angle(2000));
         Check.due("text mean()", 1.5853658536585367, text.mean());
-        // The grid's best is 100 with 2.0 ..; one step more finds the greater sum.
         Check.due("text angle(300)", 125, text.angle(300));
+    }
+
+    // On one line from 287 on. From the grid's angle a the steps go down by 50, 25, 12, 6, 3 and 1 as far as they may,
+    // so that they end above 287 if a - 287 is no sum of them.
+    private static void eachStepCounts() {
+        SkewFind down = Check.dotted(24, 24, 0, 0, 10, 1);
+        int[] bounds = {401, 402, 389, 388, 400, 416, 412, 363, 364, 313};
+        int[] grid = {299, 298, 311, 312, 300, 384, 288, 337, 336, 287};
+        int[] want = {287, 288, 289, 287, 287, 287, 287, 287, 289, 287};
+        for (int i = 0; i < bounds.length; i++) {
+            Check.due("angle(" + bounds[i] + ") by " + grid[i], want[i], down.angle(bounds[i]));
+        }
+    }
+
+    // One pair is on one line from 125 on, the other one from 169 on.
+    private static void stepsKeepToTheBound() {
+        SkewFind pairs = Check.dotted(24, 24, 0, 0, 23, 1, 0, 10, 17, 11);
+        // 125 is on the grid, and 50 more is the bound itself: from there 175, 169.
+        Check.due("angle(175)", 169, pairs.angle(175));
+        // 126 is on the grid, and 50 more is above the bound.
+        Check.due("angle(174)", 125, pairs.angle(174));
     }
 
     private static SkewFind stairs() {

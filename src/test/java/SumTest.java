@@ -3,6 +3,7 @@ final class SumTest {
     public static void main(String[] args) {
         levelSums();
         slopedSums();
+        termsOfSlope();
         sumsThrow();
         Check.end();
     }
@@ -35,6 +36,17 @@ final class SumTest {
         for (int angle : angles) {
             Check.due(name + " sum(" + sign * angle + ")", want, x.sum(sign * angle));
         }
+    }
+
+    // 18 * SLOPE of 1988 is 6.5087; without its third term it would be 6.4968, and so on another line.
+    private static void termsOfSlope() {
+        SkewFind x = Check.dotted(24, 24, 18, 7, 0, 0);
+        Check.due("sum(1988)", 2.0, x.sum(1988));
+        Check.due("sum(1985)", 1.0, x.sum(1985));
+        // 16 * SLOPE of 179 is 0.500024; without its second term it would be 0.49986.
+        SkewFind y = Check.dotted(24, 24, 16, 1, 0, 0);
+        Check.due("sum(179)", 2.0, y.sum(179));
+        Check.due("sum(178)", 1.0, y.sum(178));
     }
 
     private static void sumsThrow() {

@@ -11,6 +11,7 @@ final class TurnTest {
         exactTurnsComeBack();
         backAfterOtherChanges();
         sampledTurn();
+        termsOfSineAndCosine();
         sixteenTurns();
         whatForgetsTurns();
         turnsThrow();
@@ -112,6 +113,22 @@ final class TurnTest {
         dueTurned("#.#|.#.|##.", 0, false, "#.#|.#.|##.");
         dueTurned("#", 2000, false, "#");
         dueTurned("#..|...|...", 2000, false, "#..|...|...");
+    }
+
+    // Each of these comes to another place if a term of SINE or COSINE is left out.
+    private static void termsOfSineAndCosine() {
+        // Row 11 stays, column 23 goes down by WHOLE(11.5 * 0.30436..) = 4, row 15 goes left by 1.
+        dueMoved(24, 24, 23, 11, 1772, true, 22, 15);
+        dueMoved(24, 17, 8, 3, 1536, false, 9, 2);
+        dueMoved(24, 21, 2, 4, 1201, false, 4, 2);
+        dueMoved(23, 19, 7, 3, 1279, false, 9, 2);
+    }
+
+    private static void dueMoved(int width, int height, int x, int y, int angle, boolean exact, int toX, int toY) {
+        SkewFind page = Check.dotted(width, height, x, y);
+        page.turn(angle, exact);
+        Check.due("(" + x + ", " + y + ") turned by " + angle + " is on (" + toX + ", " + toY + ")",
+            true, page.at(toX, toY));
     }
 
     private static void sixteenTurns() {
