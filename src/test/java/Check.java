@@ -2,17 +2,44 @@
 final class Check {
     private static int wrong = 0;
     private static int done = 0;
+    private static int sentences = 0;
+    private static String sentence = "";
 
     interface Call {
         Object answer();
     }
 
+    interface Checks {
+        void make();
+    }
+
+    /** One sentence of the document, under the promise that it bears on, and the checks that need just this sentence. */
+    static void sentence(String promise, String words, Checks checks) {
+        int before = done;
+        sentence = promise + ", \"" + words + "\": ";
+        sentences++;
+        try {
+            checks.make();
+            if (done == before) {
+                fail("nothing was checked");
+            }
+        } catch (RuntimeException e) {
+            // A call that may not throw here; the other sentences are to be checked all the same.
+            fail("a call threw " + e);
+        }
+        sentence = "";
+    }
+
     static void due(String call, Object want, Object got) {
         done++;
         if (!want.equals(got)) {
-            wrong++;
-            System.out.println(call + " answered " + got + ", due is " + want);
+            fail(call + " answered " + got + ", due is " + want);
         }
+    }
+
+    private static void fail(String what) {
+        wrong++;
+        System.out.println(sentence + what);
     }
 
     /** The answer of a call, or the name of the exception that it throws. */
@@ -80,7 +107,8 @@ final class Check {
     }
 
     static void end() {
-        System.out.println(done + " checks, " + wrong + " wrong");
+        String of = sentences == 0 ? "" : " of " + sentences + " sentences";
+        System.out.println(done + " checks" + of + ", " + wrong + " wrong");
         if (wrong != 0) {
             System.exit(1);
         }
