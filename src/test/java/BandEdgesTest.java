@@ -21,7 +21,8 @@ final class BandEdgesTest {
         Check.sentence("Promise 14", "else at v the value g * v + (Y - g * X) / n", BandEdgesTest::twoColumns);
         Check.sentence("Promise 14", "the columns that have something on in the band", BandEdgesTest::inTheBand);
         Check.sentence("Promise 14", "with the greatest such y", BandEdgesTest::greatestY);
-        Check.sentence("Promise 14", "the greatest whole number not above v + 0.5 (just a half)", BandEdgesTest::halves);
+        Check.sentence("Promise 14", "the greatest whole number not above v + 0.5 (just a half)",
+            BandEdgesTest::halves);
         Check.sentence("Promise 15", "more is on in rows of the lower half than of the upper one (as much)",
             BandEdgesTest::asMuch);
         Check.sentence("Promise 15", "more is on in rows of the lower half than of the upper one (one more)",

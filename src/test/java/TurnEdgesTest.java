@@ -35,44 +35,21 @@ final class TurnEdgesTest {
         Check.end();
     }
 
-    private static void dueMoved(int width, int height, int[] from, int angle, boolean exact, int[] to) {
-        SkewFind x = Check.dotted(width, height, from[0], from[1]);
-        String name = width + " by " + height + ", (" + from[0] + ", " + from[1] + ") turned by " + angle;
-        Check.due("turn() of " + name, 1, x.turn(angle, exact));
-        Check.due("at() of " + name, true, x.at(to[0], to[1]));
-        if (exact) {
-            x.back();
-            Check.due("at() of " + name + " and back", true, x.at(from[0], from[1]));
-        }
-    }
-
-    private static int[] place(int x, int y) {
-        return new int[] {x, y};
-    }
-
-    private static void dueTurned(String picture, int angle, boolean exact, String want) {
-        SkewFind x = Check.drawn(picture);
-        String name = picture + " turn(" + angle + ", " + exact + ")";
-        int on = want.length() - want.replace("#", "").length();
-        Check.due(name, on, x.turn(angle, exact));
-        Check.due("the picture of " + name, want, Check.pictureOf(x));
-    }
-
     // 9 by 9 at 2000: the rows go by 1 1 0 0 0 0 0 -1 -1, twice, the columns by -1 -1 -1 0 0 0 1 1 1.
     private static final String LEVEL = ".........|.........|.........|.........|#########|"
         + ".........|.........|.........|.........";
 
     private static void widestAngles() {
-        dueTurned(LEVEL, 2000, true, ".........|.........|.........|###......|...###...|"
+        Check.dueTurned(LEVEL, 2000, true, ".........|.........|.........|###......|...###...|"
             + "......###|.........|.........|.........");
-        dueTurned(LEVEL, -2000, true, ".........|.........|.........|......###|...###...|"
+        Check.dueTurned(LEVEL, -2000, true, ".........|.........|.........|......###|...###...|"
             + "###......|.........|.........|.........");
-        dueTurned(LEVEL, 2000, false, ".........|.........|.........|###......|...###...|"
+        Check.dueTurned(LEVEL, 2000, false, ".........|.........|.........|###......|...###...|"
             + "......###|.........|.........|.........");
-        dueTurned(LEVEL, -2000, false, ".........|.........|.........|......###|...###...|"
+        Check.dueTurned(LEVEL, -2000, false, ".........|.........|.........|......###|...###...|"
             + "###......|.........|.........|.........");
-        dueTurned(LEVEL, 0, true, LEVEL);
-        dueTurned(LEVEL, 0, false, LEVEL);
+        Check.dueTurned(LEVEL, 0, true, LEVEL);
+        Check.dueTurned(LEVEL, 0, false, LEVEL);
     }
 
     private static void widerAngles() {
@@ -92,113 +69,101 @@ final class TurnEdgesTest {
 
     // 4 wide, thus cx is 1.5: the columns go by WHOLE(-0.513) = -1, 0, 0 and 1. With 1 or 2 they would not.
     private static void middleOfEvenWidth() {
-        dueTurned("....|####|....|....", 2000, true, "#...|.##.|...#|....");
-        dueTurned("....|####|....|....", -2000, true, "...#|.##.|#...|....");
-        dueTurned("....|####|....|....", 2000, false, "#...|.###|...#|....");
+        Check.dueTurned("....|####|....|....", 2000, true, "#...|.##.|...#|....");
+        Check.dueTurned("....|####|....|....", -2000, true, "...#|.##.|#...|....");
+        Check.dueTurned("....|####|....|....", 2000, false, "#...|.###|...#|....");
         // By 0 each sample stays, whatever the middle is.
-        dueTurned("#..#|.#..", 0, false, "#..#|.#..");
-        dueTurned("#..#|.#..", 0, true, "#..#|.#..");
+        Check.dueTurned("#..#|.#..", 0, false, "#..#|.#..");
+        Check.dueTurned("#..#|.#..", 0, true, "#..#|.#..");
     }
 
     // 6 high, thus cy is 2.5: at 2000 rows 0 and 5 go by WHOLE(0.4408..) = 0; 8 high, thus 3.5: by WHOLE(0.617..) = 1.
     private static void middleOfEvenHeight() {
-        dueMoved(3, 6, place(0, 0), 2000, true, place(0, 0));
-        dueMoved(3, 6, place(0, 5), 2000, true, place(0, 5));
-        dueMoved(3, 8, place(0, 0), 2000, true, place(2, 0));
-        dueMoved(3, 8, place(2, 7), 2000, true, place(0, 7));
-        dueMoved(3, 8, place(0, 1), 2000, true, place(0, 1));
-        dueMoved(3, 8, place(2, 6), 2000, true, place(2, 6));
-        dueTurned(".#..|.#..|.#..|.#..", 2000, false, ".##.|.#..|.#..|#...");
+        Check.dueMoved(3, 6, Check.place(0, 0), 2000, true, Check.place(0, 0));
+        Check.dueMoved(3, 6, Check.place(0, 5), 2000, true, Check.place(0, 5));
+        Check.dueMoved(3, 8, Check.place(0, 0), 2000, true, Check.place(2, 0));
+        Check.dueMoved(3, 8, Check.place(2, 7), 2000, true, Check.place(0, 7));
+        Check.dueMoved(3, 8, Check.place(0, 1), 2000, true, Check.place(0, 1));
+        Check.dueMoved(3, 8, Check.place(2, 6), 2000, true, Check.place(2, 6));
+        Check.dueTurned(".#..|.#..|.#..|.#..", 2000, false, ".##.|.#..|.#..|#...");
     }
 
     // 3 * SLOPE of 946.5 is 0.50014.., of 946 it is 0.49987..: row 0 of 7 goes by 1, twice.
     private static void halfOfAnOddAngle() {
-        dueMoved(3, 7, place(0, 0), 1893, true, place(2, 0));
-        dueMoved(3, 7, place(2, 6), 1893, true, place(0, 6));
-        dueMoved(3, 7, place(0, 0), 1892, true, place(0, 0));
-        dueMoved(3, 7, place(2, 0), -1893, true, place(0, 0));
-        dueMoved(3, 7, place(2, 0), -1892, true, place(2, 0));
+        Check.dueMoved(3, 7, Check.place(0, 0), 1893, true, Check.place(2, 0));
+        Check.dueMoved(3, 7, Check.place(2, 6), 1893, true, Check.place(0, 6));
+        Check.dueMoved(3, 7, Check.place(0, 0), 1892, true, Check.place(0, 0));
+        Check.dueMoved(3, 7, Check.place(2, 0), -1893, true, Check.place(0, 0));
+        Check.dueMoved(3, 7, Check.place(2, 0), -1892, true, Check.place(2, 0));
     }
 
     // 3 wide: no column goes, as 1 * SINE is below 0.5. Row 0 of 24 goes to the right by 2, twice.
     private static void leavesAtTheRight() {
-        dueMoved(3, 24, place(0, 0), 2000, true, place(1, 0));
-        dueMoved(3, 24, place(1, 0), 2000, true, place(2, 0));
-        dueMoved(3, 24, place(2, 0), 2000, true, place(0, 0));
-        dueMoved(3, 24, place(2, 23), -2000, true, place(0, 23));
+        Check.dueMoved(3, 24, Check.place(0, 0), 2000, true, Check.place(1, 0));
+        Check.dueMoved(3, 24, Check.place(1, 0), 2000, true, Check.place(2, 0));
+        Check.dueMoved(3, 24, Check.place(2, 0), 2000, true, Check.place(0, 0));
+        Check.dueMoved(3, 24, Check.place(2, 23), -2000, true, Check.place(0, 23));
         // Row 8 of 24 goes by 1, twice.
-        dueMoved(3, 24, place(2, 8), 2000, true, place(1, 8));
+        Check.dueMoved(3, 24, Check.place(2, 8), 2000, true, Check.place(1, 8));
     }
 
     private static void leavesAtTheLeft() {
-        dueMoved(3, 24, place(0, 23), 2000, true, place(2, 23));
-        dueMoved(3, 24, place(1, 23), 2000, true, place(0, 23));
-        dueMoved(3, 24, place(2, 23), 2000, true, place(1, 23));
-        dueMoved(3, 24, place(0, 0), -2000, true, place(2, 0));
-        dueMoved(3, 24, place(0, 15), 2000, true, place(1, 15));
+        Check.dueMoved(3, 24, Check.place(0, 23), 2000, true, Check.place(2, 23));
+        Check.dueMoved(3, 24, Check.place(1, 23), 2000, true, Check.place(0, 23));
+        Check.dueMoved(3, 24, Check.place(2, 23), 2000, true, Check.place(1, 23));
+        Check.dueMoved(3, 24, Check.place(0, 0), -2000, true, Check.place(2, 0));
+        Check.dueMoved(3, 24, Check.place(0, 15), 2000, true, Check.place(1, 15));
     }
 
     // 5 high: no row goes, as 2 * SLOPE is below 0.5. Column 23 of 24 goes downward by 4, column 0 upward by 4.
     private static void leavesBelow() {
-        dueMoved(24, 5, place(23, 0), 2000, true, place(23, 4));
-        dueMoved(24, 5, place(23, 1), 2000, true, place(23, 0));
-        dueMoved(24, 5, place(23, 4), 2000, true, place(23, 3));
-        dueMoved(24, 5, place(0, 4), -2000, true, place(0, 3));
+        Check.dueMoved(24, 5, Check.place(23, 0), 2000, true, Check.place(23, 4));
+        Check.dueMoved(24, 5, Check.place(23, 1), 2000, true, Check.place(23, 0));
+        Check.dueMoved(24, 5, Check.place(23, 4), 2000, true, Check.place(23, 3));
+        Check.dueMoved(24, 5, Check.place(0, 4), -2000, true, Check.place(0, 3));
     }
 
     private static void leavesAbove() {
-        dueMoved(24, 5, place(0, 4), 2000, true, place(0, 0));
-        dueMoved(24, 5, place(0, 3), 2000, true, place(0, 4));
-        dueMoved(24, 5, place(0, 0), 2000, true, place(0, 1));
-        dueMoved(24, 5, place(23, 0), -2000, true, place(23, 1));
+        Check.dueMoved(24, 5, Check.place(0, 4), 2000, true, Check.place(0, 0));
+        Check.dueMoved(24, 5, Check.place(0, 3), 2000, true, Check.place(0, 4));
+        Check.dueMoved(24, 5, Check.place(0, 0), 2000, true, Check.place(0, 1));
+        Check.dueMoved(24, 5, Check.place(23, 0), -2000, true, Check.place(23, 1));
     }
 
     private static void farAround() {
         // By 4 in 3 rows, and by 2 twice in 1 or 2 columns.
-        dueMoved(24, 3, place(23, 0), 2000, true, place(23, 1));
-        dueMoved(24, 3, place(0, 0), 2000, true, place(0, 2));
-        dueMoved(24, 1, place(23, 0), 2000, true, place(23, 0));
-        dueMoved(24, 1, place(0, 0), 2000, true, place(0, 0));
-        dueMoved(24, 2, place(23, 1), 2000, true, place(23, 1));
-        dueMoved(24, 2, place(21, 1), 2000, true, place(21, 0));
-        dueMoved(1, 24, place(0, 0), 2000, true, place(0, 0));
-        dueMoved(1, 24, place(0, 23), -2000, true, place(0, 23));
-        dueMoved(2, 24, place(1, 0), 2000, true, place(1, 0));
-        dueTurned("#", 2000, true, "#");
-        dueTurned("#|.|#|#|.|.|#|.|.|.|.|.|#", 2000, true, "#|.|#|#|.|.|#|.|.|.|.|.|#");
-        dueTurned("#.##..#.....#", -2000, true, "#.##..#.....#");
-    }
-
-    private static SkewFind patterned(int width, int height) {
-        SkewFind x = new SkewFind(width, height);
-        for (int row = 0; row < height; row++) {
-            for (int column = 0; column < width; column++) {
-                if ((row * row + 3 * column * row + column * column * 5) % 7 < 3) {
-                    x.put(column, row, 1, true);
-                }
-            }
-        }
-        return x;
+        Check.dueMoved(24, 3, Check.place(23, 0), 2000, true, Check.place(23, 1));
+        Check.dueMoved(24, 3, Check.place(0, 0), 2000, true, Check.place(0, 2));
+        Check.dueMoved(24, 1, Check.place(23, 0), 2000, true, Check.place(23, 0));
+        Check.dueMoved(24, 1, Check.place(0, 0), 2000, true, Check.place(0, 0));
+        Check.dueMoved(24, 2, Check.place(23, 1), 2000, true, Check.place(23, 1));
+        Check.dueMoved(24, 2, Check.place(21, 1), 2000, true, Check.place(21, 0));
+        Check.dueMoved(1, 24, Check.place(0, 0), 2000, true, Check.place(0, 0));
+        Check.dueMoved(1, 24, Check.place(0, 23), -2000, true, Check.place(0, 23));
+        Check.dueMoved(2, 24, Check.place(1, 0), 2000, true, Check.place(1, 0));
+        Check.dueTurned("#", 2000, true, "#");
+        Check.dueTurned("#|.|#|#|.|.|#|.|.|.|.|.|#", 2000, true, "#|.|#|#|.|.|#|.|.|.|.|.|#");
+        Check.dueTurned("#.##..#.....#", -2000, true, "#.##..#.....#");
     }
 
     private static void noneIsLost() {
         for (int size = 1; size <= 24; size++) {
-            SkewFind x = patterned(size, 25 - size);
+            SkewFind x = Check.patterned(size, 25 - size);
             int on = x.told(2);
             Check.due("turn(2000, true), " + size + " wide", on, x.turn(2000, true));
             Check.due("turn(-1777, true), " + size + " wide", on, x.turn(-1777, true));
             Check.due("told(2), " + size + " wide", on, x.told(2));
         }
-        dueTurned(FULL, 2000, true, FULL);
-        dueTurned(FULL, -2000, true, FULL);
+        Check.dueTurned(FULL, 2000, true, FULL);
+        Check.dueTurned(FULL, -2000, true, FULL);
         Check.due("turn() of nothing", 0, new SkewFind(24, 24).turn(2000, true));
     }
 
     private static void offFromOutside() {
-        dueTurned(FULL, 2000, false, ".###.|#####|#####|#####|.###.");
-        dueTurned(FULL, -2000, false, ".###.|#####|#####|#####|.###.");
-        dueTurned(FULL, 0, false, FULL);
-        dueTurned("#", 2000, false, "#");
+        Check.dueTurned(FULL, 2000, false, ".###.|#####|#####|#####|.###.");
+        Check.dueTurned(FULL, -2000, false, ".###.|#####|#####|#####|.###.");
+        Check.dueTurned(FULL, 0, false, FULL);
+        Check.dueTurned("#", 2000, false, "#");
     }
 
     // At 2000 the corners come from (-1, 1), (3, -1), (1, 5) and (5, 3): what is at the other end does not come in.
@@ -275,7 +240,7 @@ final class TurnEdgesTest {
 
     // The same turns in another order make another picture.
     private static void latestFirst() {
-        SkewFind x = patterned(24, 17);
+        SkewFind x = Check.patterned(24, 17);
         String first = Check.pictureOf(x);
         x.turn(2000, true);
         String second = Check.pictureOf(x);
@@ -296,7 +261,7 @@ final class TurnEdgesTest {
     private static void comesBackExactly() {
         for (int size = 1; size <= 24; size++) {
             for (int angle = -2000; angle <= 2000; angle += 125) {
-                SkewFind x = patterned(size, 1 + (size * 7 + angle + 2000) % 24);
+                SkewFind x = Check.patterned(size, 1 + (size * 7 + angle + 2000) % 24);
                 String before = Check.pictureOf(x);
                 x.turn(angle, true);
                 Check.due("back()", 0, x.back());

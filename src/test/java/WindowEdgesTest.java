@@ -2,10 +2,6 @@
 final class WindowEdgesTest {
     private static final String MIDDLE = ".......|...#...|..#....|.......|.......|.......";
 
-    interface Step {
-        void doTo(SkewFind x);
-    }
-
     public static void main(String[] args) {
         Check.sentence("Promise 10", "by all columns (or rows) on that side that have nothing on (each side)",
             WindowEdgesTest::eachSide);
@@ -25,14 +21,8 @@ final class WindowEdgesTest {
         Check.sentence("Promise 11", "also BACK", WindowEdgesTest::backOpens);
         Check.sentence("Promise 11", "also BACK (no turn was made)", WindowEdgesTest::noBackKeeps);
         Check.sentence("Promise 11", "THE WINDOW (by no other call)", WindowEdgesTest::othersKeep);
-        Check.sentence("Promise 11", "the WINDOW is the whole picture (clear())", WindowEdgesTest::clearOpens);
+        Check.sentence("Promises 11 and 17", "the WINDOW is the whole picture", WindowEdgesTest::clearOpens);
         Check.end();
-    }
-
-    private static void dueSizes(String name, SkewFind x, int... want) {
-        for (int side = 0; side < 4; side++) {
-            Check.due(name + " size(" + side + ")", want[side], x.size(side));
-        }
     }
 
     private static void eachSide() {
@@ -41,7 +31,7 @@ final class WindowEdgesTest {
         for (int side = 0; side < 4; side++) {
             SkewFind x = Check.drawn(MIDDLE);
             Check.due("crop(" + side + ")", by[side], x.crop(side));
-            dueSizes("after crop(" + side + ")", x, sizes[side]);
+            Check.dueSizes("after crop(" + side + ")", x, sizes[side]);
         }
     }
 
@@ -51,13 +41,13 @@ final class WindowEdgesTest {
         Check.due("crop(1) to the last row", 23, last.crop(1));
         Check.due("crop(2)", 0, last.crop(2));
         Check.due("crop(3)", 0, last.crop(3));
-        dueSizes("the last sample", last, 23, 23, 24, 24);
+        Check.dueSizes("the last sample", last, 23, 23, 24, 24);
         SkewFind first = Check.dotted(24, 24, 0, 0);
         Check.due("crop(3) to the first row", 23, first.crop(3));
         Check.due("crop(2) to the first column", 23, first.crop(2));
         Check.due("crop(1)", 0, first.crop(1));
         Check.due("crop(0)", 0, first.crop(0));
-        dueSizes("the first sample", first, 0, 0, 1, 1);
+        Check.dueSizes("the first sample", first, 0, 0, 1, 1);
     }
 
     private static void noneToCrop() {
@@ -67,7 +57,7 @@ final class WindowEdgesTest {
             for (int side = 0; side < 4; side++) {
                 Check.due(picture + " crop(" + side + ")", 0, x.crop(side));
             }
-            dueSizes(picture, x, 0, 0, x.told(0), x.told(1));
+            Check.dueSizes(picture, x, 0, 0, x.told(0), x.told(1));
         }
     }
 
@@ -76,7 +66,7 @@ final class WindowEdgesTest {
         for (int side = 0; side < 4; side++) {
             Check.due("crop(" + side + ")", 1, x.crop(side));
         }
-        dueSizes("a frame of four", x, 1, 1, 6, 5);
+        Check.dueSizes("a frame of four", x, 1, 1, 6, 5);
     }
 
     private static void nothingOn() {
@@ -86,7 +76,7 @@ final class WindowEdgesTest {
             for (int side = 0; side < 4; side++) {
                 Check.due("crop(" + side + ") of nothing", 0, x.crop(side));
             }
-            dueSizes("of nothing", x, 0, 0, size, 25 - size);
+            Check.dueSizes("of nothing", x, 0, 0, size, 25 - size);
         }
         SkewFind off = Check.drawn("...|.#.|...");
         off.crop(0);
@@ -94,7 +84,7 @@ final class WindowEdgesTest {
         for (int side = 0; side < 4; side++) {
             Check.due("crop(" + side + ") when the last sample is off", 0, off.crop(side));
         }
-        dueSizes("when the last sample is off", off, 0, 0, 3, 3);
+        Check.dueSizes("when the last sample is off", off, 0, 0, 3, 3);
     }
 
     private static void onceMore() {
@@ -103,7 +93,7 @@ final class WindowEdgesTest {
             Check.due("crop(" + side + ")", new int[] {2, 1, 3, 3}[side], x.crop(side));
             Check.due("crop(" + side + ") once more", 0, x.crop(side));
         }
-        dueSizes("all cropped", x, 2, 1, 4, 3);
+        Check.dueSizes("all cropped", x, 2, 1, 4, 3);
     }
 
     private static final int[] NO_SIDES = {-1, -2, 4, 5, 100, Integer.MIN_VALUE, Integer.MAX_VALUE};
@@ -142,11 +132,11 @@ final class WindowEdgesTest {
     }
 
     private static void atFirst() {
-        dueSizes("1 by 1", new SkewFind(1, 1), 0, 0, 1, 1);
-        dueSizes("24 by 24", new SkewFind(24, 24), 0, 0, 24, 24);
-        dueSizes("5 by 7", new SkewFind(5, 7), 0, 0, 5, 7);
-        dueSizes("too large", new SkewFind(99, 25), 0, 0, 24, 24);
-        dueSizes("too small", new SkewFind(0, -9), 0, 0, 1, 1);
+        Check.dueSizes("1 by 1", new SkewFind(1, 1), 0, 0, 1, 1);
+        Check.dueSizes("24 by 24", new SkewFind(24, 24), 0, 0, 24, 24);
+        Check.dueSizes("5 by 7", new SkewFind(5, 7), 0, 0, 5, 7);
+        Check.dueSizes("too large", new SkewFind(99, 25), 0, 0, 24, 24);
+        Check.dueSizes("too small", new SkewFind(0, -9), 0, 0, 1, 1);
     }
 
     private static SkewFind cropped() {
@@ -157,20 +147,20 @@ final class WindowEdgesTest {
         return x;
     }
 
-    private static void dueOpen(String name, SkewFind x, Step step) {
+    private static void dueOpen(String name, SkewFind x, Check.Step step) {
         for (int side = 0; side < 4; side++) {
             x.crop(side);
         }
         step.doTo(x);
-        dueSizes("after " + name, x, 0, 0, 7, 6);
+        Check.dueSizes("after " + name, x, 0, 0, 7, 6);
     }
 
-    private static void dueKept(String name, SkewFind x, Step step) {
+    private static void dueKept(String name, SkewFind x, Check.Step step) {
         for (int side = 0; side < 4; side++) {
             x.crop(side);
         }
         step.doTo(x);
-        dueSizes("after " + name, x, 2, 1, 4, 3);
+        Check.dueSizes("after " + name, x, 2, 1, 4, 3);
     }
 
     private static void putOpens() {
